@@ -15,6 +15,7 @@ public final class TenPledges {
     private static final int SHEETS = 4, LANES = 3, CELLS_MOST = 40, READ_MOST = 20;
     private static final int NULL_FAULT = 1, INDEX_FAULT = 2, CAST_FAULT = 3, SIZE_FAULT = 4;
     private static final int NO_FAULT = 0;
+    private static final int BEYOND_HARM = 1000000;
 
     private final Town town = new Town();
     // Every "what if" is played in this one town, so that no call has to make another.
@@ -582,7 +583,7 @@ public final class TenPledges {
     /** HARM OF ALL with two changed, by the trial town, which is as before then. */
     private int harmBySwap(int m, int n) {
         if (!trial.maySwap(m, n)) {
-            return Integer.MAX_VALUE;
+            return BEYOND_HARM;
         }
         trial.exchange(m, n);
         int then = trial.harmOfAll();
@@ -952,7 +953,7 @@ public final class TenPledges {
 
         void search(Town of) {
             town = of;
-            least = Integer.MAX_VALUE;
+            least = BEYOND_HARM;
             for (int t = 0; t < TENS; t++) {
                 sizes[t] = 0;
                 roughs[t] = 0;
@@ -1051,7 +1052,8 @@ public final class TenPledges {
             tensOfAll = (1 << TENS) - 1;
             scratch.copyFrom(town);
             int saints = town.menOfKind(SAINT);
-            for (int set = 0; set <= town.allMen(); set++) {
+            int all = town.allMen();
+            for (int set = 0; set <= all; set++) {
                 if ((set & saints) == 0 && isAsSeen(town, scratch, set)) {
                     addSet(set, town.tensOf(set));
                 }

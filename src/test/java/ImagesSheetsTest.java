@@ -5,6 +5,7 @@ public final class ImagesSheetsTest {
 
     public static void main(String[] args) {
         images();
+        imagesOfSeen();
         sheets();
         lanes();
         reading();
@@ -59,6 +60,19 @@ public final class ImagesSheetsTest {
         x.law(0, 5);
         x.back(0);
         c.due("34 rule(1)", x.rule(1), 1);
+    }
+
+    private static void imagesOfSeen() {
+        TenPledges x = c.told("calm 1 50 0;calm 1 50 0;calm 1 50 1;calm 1 50 1;");
+        x.see(0, 12);
+        x.keep(0);
+        x.forget(0);
+        x.see(3, 0);
+        x.see(2, 12);
+        c.due("34 fits(1) ahead", x.fits(1), 8);
+        x.back(0);
+        c.due("34 fits(1): the MAN and how much less", x.fits(1), 2);
+        c.due("34 fits(0)", x.fits(0), 8);
     }
 
     private static void sheets() {

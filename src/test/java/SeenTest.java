@@ -94,5 +94,9 @@ public final class SeenTest {
         x.forget(0);
         x.see(0, 12);
         c.due("31 fits(0)", x.fits(0), 0);
+        x.forget(0);
+        x.see(1, 12);
+        c.due("31 fits(2): the first one ran", x.fits(2), 1);
+        c.due("31 fits(4): from TEN 0", x.fits(4), 1);
     }
 }
