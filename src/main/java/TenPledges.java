@@ -784,7 +784,8 @@ public final class TenPledges {
             if (!hasMan(m) || !isTen(t)) {
                 return BAD;
             }
-            return sizeOfTen(t) >= mosts[t] ? FULL : 0;
+            // In his own TEN he is one of those that it has: nobody comes in addition.
+            return tens[m] != t && sizeOfTen(t) >= mosts[t] ? FULL : 0;
         }
 
         int seat(int m, int t) {

@@ -25,7 +25,11 @@ public final class ChangesTest {
         c.due("9 move(0, -1)", x.move(0, -1), BAD);
         c.due("9 move(0, 4)", x.move(0, 4), BAD);
         c.due("9 move(2, 0): it has MOST", x.move(2, 0), FULL);
-        c.due("9 move(0, 0): his own, which has MOST", x.move(0, 0), FULL);
+        c.due("9 move(0, 0): his own, which has MOST", x.move(0, 0), 0);
+        c.due("9 move(1, 0): his own, which has MOST", x.move(1, 0), 0);
+        c.due("9 man(1, 0): quarrelsome still", x.man(1, 0), 1);
+        c.due("9 ten(0, 0): as it was", x.ten(0, 0), 3);
+        c.due("9 move(3, 0): a wanderer, it has MOST", x.move(3, 0), FULL);
         c.due("9 move(5, 0): no such MAN goes before MOST", x.move(5, 0), BAD);
         c.due("9 move(2, 1): its own", x.move(2, 1), 1);
         c.due("9 man(2, 3)", x.man(2, 3), 1);

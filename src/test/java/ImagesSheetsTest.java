@@ -11,6 +11,7 @@ public final class ImagesSheetsTest {
         reading();
         machineFaults();
         refusedMoves();
+        readsToOwnTens();
         counts();
         c.finish();
     }
@@ -214,6 +215,30 @@ public final class ImagesSheetsTest {
         c.due("37 one behind another: room is made first", y.read(0, 0, 0, 3), 3);
         c.due("37 man(0, 3)", y.man(0, 3), 1);
         c.due("37 man(1, 3)", y.man(1, 3), 2);
+    }
+
+    private static void readsToOwnTens() {
+        TenPledges x = c.told("calm 1 1 0;quarrel 1 1 0;wander 1 1;saint 1 1;most 0 2;most 1 1;");
+        x.sheet(3, 2, 8);
+        int[] cells = {0, 0, 1, 0, 3, 1, 2, 0};
+        for (int i = 0; i < 8; i++) {
+            x.lay(3, i, cells[i]);
+        }
+        c.due("37 read(3, 2, 0, 3): their own, which have MOST", x.read(3, 2, 0, 3), 3);
+        c.due("37 ten(0, 0): as it was", x.ten(0, 0), 3);
+        c.due("37 ten(1, 0): as it was", x.ten(1, 0), 8);
+        c.due("37 read(3, 2, 0, 4): the wanderer's it is not", x.read(3, 2, 0, 4), -23);
+        x.lay(3, 0, 3);
+        c.due("37 read(3, 2, 0, 3): not his own, FULL", x.read(3, 2, 0, 3), -20);
+        x.lay(3, 0, 1);
+        x.lay(3, 1, 2);
+        c.due("37 read(3, 2, 0, 2): he left, and comes back", x.read(3, 2, 0, 2), 2);
+        c.due("37 man(1, 3)", x.man(1, 3), 0);
+        x.lay(3, 2, 2);
+        x.lay(3, 4, 1);
+        x.lay(3, 5, 0);
+        c.due("37 read(3, 2, 0, 3): his own no more", x.read(3, 2, 0, 3), -22);
+        c.due("37 man(1, 3): none came", x.man(1, 3), 0);
     }
 
     private static void counts() {

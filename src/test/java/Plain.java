@@ -362,7 +362,7 @@ final class Plain {
         if (man == null || t < 0 || t > 3) {
             return BAD;
         }
-        if (now.in(t).size() >= now.most[t]) {
+        if (!now.in(t).contains(man) && now.in(t).size() >= now.most[t]) {
             return FULL;
         }
         int was = man.kind == 3 ? NONE : man.ten;
