@@ -81,6 +81,9 @@ final class PlacesBounds {
         v.dueEach("best(1?)", 0, 1, 2, 1, 1, 1, 1, 3).asks("best(0)", 0);
         Run w = x.anew().told(calm + "quarrel0 0 0;quarrel0 0 2;quarrel0 0 3;" + tight);
         w.dueEach("best(1?)", 0, 1, 1, 1, 1, 1, 2, 3).asks("best(0)", 0);
+        // Four have to be by themselves, so the calm one ahead of them leaves TEN 0 free.
+        Run u = x.anew().told("calm0 0 1;quarrel0 0 0;quarrel0 0 1;quarrel0 0 2;quarrel0 0 3;" + tight);
+        u.dueEach("best(1?)", 1, 0, 1, 2, 3).asks("best(0)", 0);
     }
 
     private void bestOfMen() {
@@ -243,6 +246,8 @@ final class PlacesBounds {
         x.asks("guard(0)", 247).asks("guard(1)", 7 * (4 * 99 + 20) + 891);
         Run y = x.anew().told("saint0 0;calm0 0 0;calm1 0 0;wander9 0;fine91;watch9;");
         y.does("watch(0, true)", "watch(1, true)").asks("guard(0)", 4).asks("guard(1)", 90 + 819);
+        // The saint and the wanderer are none of it, even if it costs nothing.
+        y.does("law(1, 0)").asks("guard(0)", 4).asks("guard(1)", 819);
         y.does("law(0, 0)").asks("guard(0)", 0).asks("guard(1)", 0).asks("rule(4)", 3);
     }
 

@@ -52,7 +52,7 @@ final class Run {
         return this;
     }
 
-    /** 
+    /**
      * All that can be is other than in a new object: 0 and 1 quarrelsome in TEN 0, which has MOST (2);
      * 2 calm, 3 a saint in TEN 1; 4 a wanderer; 5 calm in TEN 2; nobody in TEN 3 (MOST 1). FINE is
      * 11, COST 3, YEAR 1; 0 and 2 are KIN and watched; two are SEEN; two IMAGES; THE TAPE has 9 bytes.
@@ -106,7 +106,8 @@ final class Run {
     private Run still(String call, long want) {
         List<String> with = new ArrayList<>(history);
         with.add(call);
-        c.due(named(call), Talk.behind(history).ask(call), want);
+        c.due(named(call), talk.ask(call), want);
+        c.due(named(call) + " on an object made anew", Talk.behind(history).ask(call), want);
         compare(call, Picture.of(history), Picture.of(with));
         return this;
     }

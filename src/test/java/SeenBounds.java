@@ -144,6 +144,8 @@ final class SeenBounds {
         x.does("leave(1)", "see(2, 0)").asks("fits(2)", 4).asks("fits(3)", 64).asks("fits(4)", 1);
         Run y = x.anew().told("wander0 9;calm0 9 2;calm0 9 2;").does("see(0, 0)").asks("fits(4)", 0);
         y.does("see(1, 9)").asks("fits(4)", 4).does("forget(0)").asks("fits(4)", 0);
+        Run z = x.anew().told("calm0 9 3;saint9 3;calm0 9 0;saint9 0;").does("see(1, 9)").asks("fits(4)", 8);
+        z.does("see(3, 9)").asks("fits(4)", 9).does("forget(0)", "see(1, 0)").asks("fits(4)", 0);
     }
 
     private void fitsRefused() {

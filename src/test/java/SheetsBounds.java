@@ -95,6 +95,11 @@ final class SheetsBounds {
         x.due("count(3)", 1).due("fits(0)", 0).due("back(1)", 2).dueEach("rule(?)", 4, 99, 9, 2, 0, 2);
         x.due("count(3)", 2).dueEach("man(?, 4)", 0, 0, 8, 4).due("keep(0)", 1).due("count(4)", 2);
         x.does("law(0, 1)").due("back(0)", 2).due("rule(1)", 99).due("keep(1)", 1);
+        // What was SEEN are both the MEN and how much less: 1 ran, by the IMAGE; 3 did, by what is SEEN now.
+        Run y = x.anew().told("calm0 50 0;calm0 50 0;calm0 50 1;calm0 50 1;");
+        y.does("see(0, 12)", "see(1, 0)", "keep(0)", "forget(0)", "see(2, 12)", "see(3, 0)", "see(0, 0)");
+        y.asks("fits(2)", 8).due("back(0)", 0).asks("fits(2)", 2).asks("fits(3)", 1).due("forget(1)", 2);
+        y.asks("fits(2)", 2).asks("fits(3)", 0);
         // Nobody is an IMAGE, too.
         x.anew().due("keep(1)", 0).due("count(4)", 1).due("keep(1)", 1).due("back(1)", 0)
                 .refuses("back(0)", STATE);

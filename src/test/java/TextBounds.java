@@ -15,6 +15,7 @@ final class TextBounds {
         nobody();
         sheetsOfNothing();
         feedByte();
+        feedBad();
         feedFull();
         endKeeps();
         endBad();
@@ -24,8 +25,11 @@ final class TextBounds {
         textStays();
         faultOfLatest();
         rule();
+        ruleBad();
         man();
+        manBad();
         ten();
+        tenBad();
         tape();
         tokens();
         lines();
@@ -74,11 +78,17 @@ final class TextBounds {
     }
 
     private void feedByte() {
-        Run x = s.of(2, "A byte (0 to 127) comes behind THE TAPE: how many it has. BAD;");
-        x.bad("feed(?)", 0, 127).due("feed(0)", 1).due("feed(127)", 2).bad("feed(?)", 0, 127);
-        x.refuses("feed(288)", BAD).refuses("feed(-96)", BAD).due("count(5)", 2);
+        Run x = s.of(2, "A byte (0 to 127) comes behind THE TAPE: how many it has.");
+        x.due("feed(0)", 1).due("feed(127)", 2).due("count(5)", 2);
         Run y = x.anew().feeds("saint5 1;").due("text()", 1).due("man(0, 2)", 5).due("man(0, 3)", 1);
         y.due("feed(32)", 1);
+    }
+
+    private void feedBad() {
+        Run x = s.of(2, "BAD;").bad("feed(?)", 0, 127).feeds("fine7;").bad("feed(?)", 0, 127);
+        // Their lowest bits are a blank: they are no bytes for that.
+        x.refuses("feed(160)", BAD).refuses("feed(288)", BAD).refuses("feed(-96)", BAD);
+        x.due("count(5)", 6).due("text()", 1);
     }
 
     private void feedFull() {
@@ -144,8 +154,8 @@ final class TextBounds {
     }
 
     private void rule() {
-        Run x = s.of(6, "0 MEN, 1 FINE, 2 COST, 3 YEAR, 4 who is watched, 5 wanderers (bits). BAD.");
-        x.busy().dueEach("rule(?)", 6, 11, 3, 1, 5, 16).bad("rule(?)", 0, 5).asks("rule(5)", 16);
+        Run x = s.of(6, "0 MEN, 1 FINE, 2 COST, 3 YEAR, 4 who is watched, 5 wanderers (bits).");
+        x.busy().dueEach("rule(?)", 6, 11, 3, 1, 5, 16).asks("rule(0)", 6).asks("rule(5)", 16);
         x.anew().told(EIGHT).dueEach("rule(?)", 8, 12, 2, 0, 0, 255);
         Run y = x.anew().told("saint0 0;saint0 0;saint0 0;saint0 1;saint0 1;saint0 1;saint0 2;saint0 2;");
         for (int m = 0; m < 8; m++) {
@@ -154,29 +164,35 @@ final class TextBounds {
         y.dueEach("rule(?)", 8, 12, 2, 0, 255, 0);
     }
 
+    private void ruleBad() {
+        s.of(6, "BAD.").busy().bad("rule(?)", 0, 5).anew().bad("rule(?)", 0, 5);
+    }
+
     private void man() {
         Run x = s.of(7, "Of a MAN: 0 KIND, 1 ODDS, 2 GOODS, 3 TEN (NONE: a wanderer), 4 KIN (bits), "
-                + "5 ODDS IN A TEN. BAD.").busy();
+                + "5 ODDS IN A TEN.").busy();
         long[][] wants = {{1, 4, 47, 0, 4, 2}, {1, 3, 30, 0, 0, 4}, {0, 5, 40, 1, 1, 2},
             {2, 0, 10, 1, 0, 0}, {3, 6, 60, NONE, 0, 6}, {0, 7, 25, 2, 0, 7}};
         for (int m = 0; m < 6; m++) {
-            x.dueEach("man(" + m + ", ?)", wants[m]);
+            x.dueEach("man(" + m + ", ?)", wants[m]).asks("man(" + m + ", 5)", wants[m][5]);
         }
-        for (int what = 0; what <= 5; what++) {
-            x.bad("man(?, " + what + ")", 0, 5);
+        x.anew().told(EIGHT + "kin0 7;kin6 7;kin7 5;").asks("man(7, 4)", 97).asks("man(0, 4)", 128);
+    }
+
+    private void manBad() {
+        Run x = s.of(7, "BAD.").busy();
+        for (int i = 0; i <= 5; i++) {
+            x.bad("man(?, " + i + ")", 0, 5).bad("man(" + i + ", ?)", 0, 5);
         }
-        x.bad("man(0, ?)", 0, 5).bad("man(5, ?)", 0, 5).refuses("man(6, 6)", BAD);
-        Run y = x.anew().told(EIGHT + "kin0 7;kin6 7;kin7 5;").due("man(7, 4)", 97);
-        y.due("man(0, 4)", 128).bad("man(?, 4)", 0, 7);
+        x.refuses("man(6, 6)", BAD).anew().told(EIGHT).bad("man(?, 4)", 0, 7).bad("man(7, ?)", 0, 5);
     }
 
     private void ten() {
-        Run x = s.of(8, "Of a TEN: 0 its men (bits), 1 MOST, 2 HARM, 3 all GOODS of its men. BAD.").busy();
+        Run x = s.of(8, "Of a TEN: 0 its men (bits), 1 MOST, 2 HARM, 3 all GOODS of its men.").busy();
         // TEN 0: (2 and 4) times 11, and 30; TEN 1: 2 times 11, and 30; TEN 2: 7 times 11.
         long[][] wants = {{3, 2, 96, 77}, {12, 3, 52, 50}, {32, 3, 77, 25}, {0, 1, 0, 0}};
         for (int t = 0; t < 4; t++) {
-            x.dueEach("ten(" + t + ", ?)", wants[t]).bad("ten(" + t + ", ?)", 0, 3);
-            x.bad("ten(?, " + t + ")", 0, 3);
+            x.dueEach("ten(" + t + ", ?)", wants[t]).asks("ten(" + t + ", 3)", wants[t][3]);
         }
         Run y = x.anew().told("wander9 99;wander9 99;wander9 99;quarrel9 99 3;quarrel9 99 3;quarrel9 99 3;"
                 + "quarrel9 99 3;quarrel9 99 3;most3 5;fine99;watch9;");
@@ -186,6 +202,14 @@ final class TextBounds {
         }
         // 13 by 2 for each of the five, and 90.
         y.due("ten(3, 2)", 5 * (6 * 99 + 90));
+    }
+
+    private void tenBad() {
+        Run x = s.of(8, "BAD.").busy();
+        for (int i = 0; i <= 3; i++) {
+            x.bad("ten(" + i + ", ?)", 0, 3).bad("ten(?, " + i + ")", 0, 3);
+        }
+        x.refuses("ten(4, 4)", BAD).anew().bad("ten(0, ?)", 0, 3).bad("ten(?, 0)", 0, 3);
     }
 
     // ---- the terms of a text

@@ -22,6 +22,7 @@ final class YearsBounds {
         harmOfAll();
         yearSets();
         yearPaid();
+        yearBad();
         yearFull();
         pays();
         paysBad();
@@ -150,9 +151,14 @@ final class YearsBounds {
     }
 
     private void yearPaid() {
-        Run x = s.of(17, "how much is paid in all, FINES and COSTS. BAD;").due("year(0)", 0);
-        x.bad("year(?)", 0, 0).told(FIVE).due("year(31)", 60).does("watch(0, true)").due("year(1)", 14);
+        Run x = s.of(17, "how much is paid in all, FINES and COSTS.").due("year(0)", 0);
+        x.told(FIVE).due("year(31)", 60).does("watch(0, true)").due("year(1)", 14);
         x.due("year(0)", 2).due("count(2)", 250 - 76);
+    }
+
+    private void yearBad() {
+        Run x = s.of(17, "BAD;").bad("year(?)", 0, 0).busy().bad("year(?)", 0, 63);
+        x.refuses("year(8)", BAD).refuses("year(63)", BAD).refuses("year(-2147483647)", BAD);
     }
 
     private void yearFull() {
