@@ -1,6 +1,7 @@
 /** Promises 33 to 39, and the terms of SHEETS and of what the machine finds. */
 final class SheetsBounds {
-    private static final int BAD = TenPledges.BAD, STATE = TenPledges.STATE, NONE = TenPledges.NONE;
+    private static final int BAD = TenPledges.BAD, STATE = TenPledges.STATE, FULL = TenPledges.FULL,
+            NONE = TenPledges.NONE;
     private static final int LEAST = Integer.MIN_VALUE, MOST = Integer.MAX_VALUE;
     // By lanes: values whose lowest bits are 1, what is above them not counting; and values of which
     // the highest bit that counts is set, or the one below, or all.
@@ -97,7 +98,7 @@ final class SheetsBounds {
         x.does("law(0, 1)").due("back(0)", 2).due("rule(1)", 99).due("keep(1)", 1);
         // What was SEEN are both the MEN and how much less: 1 ran, by the IMAGE; 3 did, by what is SEEN now.
         Run y = x.anew().told("calm0 50 0;calm0 50 0;calm0 50 1;calm0 50 1;");
-        y.does("see(0, 12)", "see(1, 0)", "keep(0)", "forget(0)", "see(2, 12)", "see(3, 0)", "see(0, 0)");
+        y.does("see(0, 12)", "see(1, 0)", "keep(0)", "forget(0)", "see(3, 0)", "see(2, 12)", "see(0, 0)");
         y.asks("fits(2)", 8).due("back(0)", 0).asks("fits(2)", 2).asks("fits(3)", 1).due("forget(1)", 2);
         y.asks("fits(2)", 2).asks("fits(3)", 0);
         // Nobody is an IMAGE, too.
@@ -116,7 +117,7 @@ final class SheetsBounds {
             x.due("year(0)", 0);
         }
         x.due("keep(1)", 0).due("back(0)", 0).due("rule(3)", 0).due("back(1)", 99).due("rule(3)", 99);
-        x.due("back(1)", 99).due("count(4)", 2);
+        x.due("back(1)", 99).due("count(4)", 2).refuses("year(0)", FULL).due("back(0)", 0).due("year(0)", 0);
         // THE TAPE, SHEETS and what fault() and torn() answer are of no IMAGE.
         Run y = x.anew().busy();
         y.due("count(5)", 9).due("back(1)", 1).due("count(5)", 9).due("count(6)", 4).due("fault()", 2);
