@@ -12,16 +12,7 @@ import java.util.regex.Pattern;
 
 /** The face of the class, and those rules of LANGUAGE.md that can be looked for in its source. */
 public final class LanguageTest {
-    private static final String[] FACE = {
-        "int feed(int)", "int end(int)", "int text()", "int fault()", "int rule(int)",
-        "int man(int,int)", "int ten(int,int)", "int move(int,int)", "int leave(int)",
-        "int swap(int,int)", "int watch(int,boolean)", "int kin(int,int,boolean)", "int odd(int,int)",
-        "int law(int,int)", "int goods(int,int)", "int year(int)", "int pays(int,int)", "int harm()",
-        "long calm(int,int)", "long mean(int,int)", "int best(int)", "int change(int)",
-        "int takes(int)", "int weight(int)", "int should(int)", "int guard(int)", "int worth(int)",
-        "int see(int,int)", "int forget(int)", "int fits(int)", "int drift(int,int,int)",
-        "int keep(int)", "int back(int)", "int sheet(int,int,int)", "int lay(int,int,int)",
-        "int read(int,int,int,int)", "int torn()", "int count(int)"};
+    private static final Path DOCUMENT = Path.of("../shared/DOC.md");
     private static final String[] BANNED = {"\\bthrows?\\b", "\\btry\\b", "\\bcatch\\b",
         "\\bsynchronized\\b", "\\bassert\\b", "\\bimport\\b", "\\bpackage\\b", "->", "::",
         "Exact\\b", "\\bObject\\b", "\\bSystem\\.(?!arraycopy)", "\\bRandom\\b", "\\bThread\\b",
@@ -36,7 +27,8 @@ public final class LanguageTest {
         c.finish();
     }
 
-    private static void face() {
+    private static void face() throws IOException {
+        String asked = Files.readString(DOCUMENT).replaceFirst("(?s).*?```java\n(.*?)```.*", "$1");
         Class<?> type = TenPledges.class;
         c.due("1 the class is public and final", type.getModifiers(), Modifier.PUBLIC | Modifier.FINAL);
         Set<String> methods = new TreeSet<>();
@@ -48,24 +40,55 @@ public final class LanguageTest {
                 names.add(m.getName());
             }
         }
-        c.due("1 the methods: " + methods, methods.equals(Set.of(FACE)) ? 1 : 0, 1);
+        c.due("1 the methods: " + methods, methods.equals(methodsOf(asked)) ? 1 : 0, 1);
+        c.due("1 the promises behind the first", methods.size(), 38);
         for (Method m : type.getDeclaredMethods()) {
             if (!Modifier.isPublic(m.getModifiers())) {
                 c.due("1 " + m + " is private", m.getModifiers() & Modifier.PRIVATE, Modifier.PRIVATE);
                 c.due("1 " + m + " has a name of its own", names.contains(m.getName()) ? 1 : 0, 0);
             }
         }
+        constants(asked);
+        Constructor<?>[] makers = type.getDeclaredConstructors();
+        c.due("1 constructors", makers.length, 1);
+        c.due("1 the constructor takes nothing", makers[0].getParameterCount(), 0);
+        c.due("1 the constructor is public", makers[0].getModifiers(), Modifier.PUBLIC);
+    }
+
+    /** The methods of the document's face, written as Method writes them, without the constructor. */
+    private static Set<String> methodsOf(String asked) {
+        Set<String> methods = new TreeSet<>();
+        Matcher found = Pattern.compile("public (int|long) (\\w+)\\((.*?)\\);").matcher(asked);
+        while (found.find()) {
+            String types = found.group(3).replaceAll(" \\w+(, |$)", ",").replaceAll(",$", "");
+            methods.add(found.group(1) + " " + found.group(2) + "(" + types + ")");
+        }
+        return methods;
+    }
+
+    private static void constants(String asked) {
         int constants = 0;
-        for (Field f : type.getDeclaredFields()) {
+        for (Field f : TenPledges.class.getDeclaredFields()) {
             constants += Modifier.isPublic(f.getModifiers()) ? 1 : 0;
             boolean open = Modifier.isPublic(f.getModifiers()) || Modifier.isPrivate(f.getModifiers());
             c.due("1 " + f + " is of the face, or private", open ? 1 : 0, 1);
         }
         c.due("1 constants", constants, 4);
-        Constructor<?>[] makers = type.getDeclaredConstructors();
-        c.due("1 constructors", makers.length, 1);
-        c.due("1 the constructor takes nothing", makers[0].getParameterCount(), 0);
-        c.due("1 the constructor is public", makers[0].getModifiers(), Modifier.PUBLIC);
+        Matcher found = Pattern.compile("([A-Z]+) = (-?\\d+)").matcher(asked);
+        for (int i = 0; i < constants && found.find(); i++) {
+            c.due("1 " + found.group(1), constantOf(found.group(1)), Integer.parseInt(found.group(2)));
+        }
+    }
+
+    private static int constantOf(String name) {
+        try {
+            Field f = TenPledges.class.getField(name);
+            c.due("1 the kind of " + name, f.getModifiers(),
+                    Modifier.PUBLIC | Modifier.STATIC | Modifier.FINAL);
+            return f.getInt(null);
+        } catch (ReflectiveOperationException e) {
+            return 0;
+        }
     }
 
     private static void nested() {
@@ -74,8 +97,20 @@ public final class LanguageTest {
         fieldsOf(TenPledges.class);
         for (Class<?> type : inside) {
             c.due("2 " + type + " is static", type.getModifiers() & Modifier.STATIC, Modifier.STATIC);
+            for (Method m : type.getDeclaredMethods()) {
+                c.due("1 " + m + " has a name of its own", isOfFace(m.getName()) ? 1 : 0, 0);
+            }
             fieldsOf(type);
         }
+    }
+
+    private static boolean isOfFace(String name) {
+        for (Method m : TenPledges.class.getMethods()) {
+            if (m.getDeclaringClass() == TenPledges.class && m.getName().equals(name)) {
+                return true;
+            }
+        }
+        return false;
     }
 
     private static void fieldsOf(Class<?> type) {
